@@ -97,8 +97,12 @@ public final class CursorTest {
     }
 
     private static void tellsWhatIsMoved() {
+        AsOfLedger none = new AsOfLedger();
+        none.post(0, 1, 5, 5);
+        Check.same("moved() without a cursor", none.moved(), 0);
+        Check.same("next() without a cursor", none.next(), AsOfLedger.NONE);
+        Check.same("moved() after next() without a cursor", none.moved(), 0);
         AsOfLedger x = made();
-        Check.same("moved() without a cursor", x.moved(), 0);
         x.open(2, 0, 999, 5);
         Check.same("moved() before next()", x.moved(), 0);
         x.next();
