@@ -5,8 +5,21 @@ import java.util.function.Supplier;
 final class Check {
     private static int wrong = 0;
     private static int looked = 0;
+    private static String sentence = "";
 
     private Check() {
+    }
+
+    /** A sentence of the document with a test of its own: what is thrown in it fails this one, the others still run. */
+    static void sentence(String words, Runnable test) {
+        sentence = words;
+        int before = looked;
+        try {
+            test.run();
+            holds("nothing was looked at", looked > before);
+        } catch (RuntimeException e) {
+            holds("the test itself met " + e, false);
+        }
     }
 
     static void same(String call, long got, long due) {
@@ -17,7 +30,7 @@ final class Check {
         looked++;
         if (!truth) {
             wrong++;
-            System.out.println("  not as due: " + what);
+            System.out.println("  not as due [" + sentence + "]: " + what);
         }
     }
 
@@ -43,7 +56,9 @@ final class Check {
     }
 
     static void unchanged(String call, AsOfLedger ledger, AsOfLedger untouched) {
-        holds(call + " was refused and changed the ledger", picture(ledger).equals(picture(untouched)));
+        String got = picture(ledger);
+        String due = picture(untouched);
+        holds(call + " was refused and changed the ledger: " + got + ", due is " + due, got.equals(due));
     }
 
     static void end() {
@@ -54,15 +69,19 @@ final class Check {
         System.exit(1);
     }
 
-    // The links stand for all words of all versions; the cursor is run to its end.
+    // The links stand for all words of all versions, the balances for what replaced what; the cursor is run to its end.
     private static String picture(AsOfLedger ledger) {
         StringBuilder text = new StringBuilder();
-        text.append(ledger.clock()).append(' ').append(ledger.head()).append(' ').append(ledger.verify());
+        int clock = ledger.clock();
+        text.append(clock).append(' ').append(ledger.head()).append(' ').append(ledger.verify());
         try {
             text.append(' ').append(ledger.entries()).append(' ').append(ledger.moved());
             for (int account = 0; account < 16; account++) {
                 text.append(' ').append(ledger.turnover(account));
-                text.append(' ').append(ledger.balance(account, 999, ledger.clock()));
+                text.append(' ').append(ledger.balance(account, 999, clock));
+            }
+            for (int t = 0; t <= clock; t++) {
+                text.append(' ').append(ledger.balance(1, 999, t));
             }
             for (int step = 0; step < 65; step++) {
                 text.append(' ').append(ledger.next()).append(' ').append(ledger.moved());
