@@ -57,10 +57,10 @@ public final class AsOfLedger {
     public int post(int debit, int credit, int amount, int day)
             throws IllegalStateException, IllegalArgumentException, UnsupportedOperationException, ArithmeticException {
         refuseIfTampered();
-        refuseUnless(isAccount(debit) && isAccount(credit) && debit != credit && isDay(day) && amount >= 1);
+        refuseArgumentsUnless(isAccount(debit) && isAccount(credit) && debit != credit && isDay(day) && amount >= 1);
         refuseIfFull();
-        refuseTurnoverAbove(debit, 0, amount);
-        refuseTurnoverAbove(credit, 0, amount);
+        refuseIfTurnoverTooHigh(debit, 0, amount);
+        refuseIfTurnoverTooHigh(credit, 0, amount);
         int entry = entryCount;
         append(POSTED, entry, debit, credit, amount, day);
         entryCount++;
@@ -72,10 +72,10 @@ public final class AsOfLedger {
             UnsupportedOperationException, ArithmeticException {
         refuseIfTampered();
         int old = versionToReplace(entry);
-        refuseUnless(amount >= 1);
+        refuseArgumentsUnless(amount >= 1);
         refuseIfFull();
-        refuseTurnoverAbove(word(old, DEBITED), word(old, AMOUNT), amount);
-        refuseTurnoverAbove(word(old, CREDITED), word(old, AMOUNT), amount);
+        refuseIfTurnoverTooHigh(word(old, DEBITED), word(old, AMOUNT), amount);
+        refuseIfTurnoverTooHigh(word(old, CREDITED), word(old, AMOUNT), amount);
         return replace(old, CORRECTED, amount);
     }
 
@@ -88,30 +88,30 @@ public final class AsOfLedger {
 
     public int balance(int account, int day, int t) throws IllegalStateException, IllegalArgumentException {
         refuseIfTampered();
-        refuseUnless(isAccount(account) && isDay(day) && isTime(t));
-        return sumMoved(account, day, t);
+        refuseArgumentsUnless(isAccount(account) && isDay(day) && isTime(t));
+        return balanceOf(account, day, t);
     }
 
     public int trial(int day, int t) throws IllegalStateException, IllegalArgumentException {
         refuseIfTampered();
-        refuseUnless(isDay(day) && isTime(t));
+        refuseArgumentsUnless(isDay(day) && isTime(t));
         // A part of the sum may wrap, the whole is right all the same.
         int sum = 0;
         for (int account = 0; account < ACCOUNTS; account++) {
-            sum += sumMoved(account, day, t);
+            sum += balanceOf(account, day, t);
         }
         return sum;
     }
 
     public int turnover(int account) throws IllegalStateException, IllegalArgumentException {
         refuseIfTampered();
-        refuseUnless(isAccount(account));
-        return sumTurned(account);
+        refuseArgumentsUnless(isAccount(account));
+        return turnoverOf(account);
     }
 
     public int open(int account, int from, int to, int t) throws IllegalStateException, IllegalArgumentException {
         refuseIfTampered();
-        refuseUnless(isAccount(account) && isDay(from) && isDay(to) && isTime(t));
+        refuseArgumentsUnless(isAccount(account) && isDay(from) && isDay(to) && isTime(t));
         cursorSize = 0;
         cursorPlace = 0;
         cursorAccount = account;
@@ -208,8 +208,8 @@ public final class AsOfLedger {
         }
     }
 
-    private static void refuseUnless(boolean argumentsAreGood) {
-        if (!argumentsAreGood) {
+    private static void refuseArgumentsUnless(boolean good) {
+        if (!good) {
             throw new IllegalArgumentException("an argument is out of its range");
         }
     }
@@ -220,8 +220,8 @@ public final class AsOfLedger {
         }
     }
 
-    private void refuseTurnoverAbove(int account, int oldAmount, int newAmount) {
-        long turnover = (long) sumTurned(account) - oldAmount + newAmount;
+    private void refuseIfTurnoverTooHigh(int account, int oldAmount, int newAmount) {
+        long turnover = (long) turnoverOf(account) - oldAmount + newAmount;
         if (turnover > MOST_TURNOVER) {
             throw new ArithmeticException("a turnover would be above 2147483647");
         }
@@ -263,8 +263,8 @@ public final class AsOfLedger {
         return word(version, CREDITED) == account ? -word(version, AMOUNT) : 0;
     }
 
-    // An int holds it: what is summed is never more than the turnover was at time t.
-    private int sumMoved(int account, int day, int t) {
+    // An int holds it, and each part of it: no sum is further from 0 than the turnover was at time t.
+    private int balanceOf(int account, int day, int t) {
         int sum = 0;
         for (int version = 0; version < t; version++) {
             if (isCurrent(version, t) && word(version, DAY) <= day) {
@@ -274,7 +274,7 @@ public final class AsOfLedger {
         return sum;
     }
 
-    private int sumTurned(int account) {
+    private int turnoverOf(int account) {
         int sum = 0;
         for (int version = 0; version < versionCount; version++) {
             if (isCurrent(version, versionCount) && touches(version, account)) {
